@@ -959,7 +959,6 @@ public final class CourseHouse {
             }
             names[size] = called;
             begins[size] = steps;
-            ends[size] = steps;
             size++;
             return true;
         }
@@ -1485,16 +1484,11 @@ public final class CourseHouse {
             }
         }
 
-        /** Finds a rule's range by trying no marks and the greatest marks for the works of a set. */
+        /** Finds a rule's range by the marks that are laid out and the greatest ones for the works of a set. */
         void tryEnds(Book book, int rule, int set) {
             lowest = Values.OUT;
             highest = Values.OUT;
             int goal = book.goal(rule);
-            for (int w = 0; w < mosts.length; w++) {
-                if (bit(set, w) == 1) {
-                    tryMark(w, 0);
-                }
-            }
             settle(book, goal, ALL_BITS);
             widen(ofRule(rule));
             for (int w = 0; w < mosts.length; w++) {

@@ -84,6 +84,14 @@ public final class HandingTest {
     due("one is marked", x.hand(3, 0), -3);
     x.group(3, 4);
     due("alone", x.hand(3, 0), 1);
+    CourseHouse first = with(3, 1);
+    first.hand(0, 0);
+    first.mark(0, 0, 2);
+    first.group(0, 1);
+    due("pupil 0 is marked", first.hand(1, 0), -3);
+    due("none has it by that", first.markOf(1, 0, 4), 0);
+    first.group(0, 0);
+    due("nobody else is", first.hand(1, 0), 1);
     due("alone marked", x.mark(3, 0, 1), 1);
     due("its own", x.markOf(3, 0, 0), 9);
     due("lessened", x.markOf(0, 0, 0), 63);
@@ -171,6 +179,11 @@ public final class HandingTest {
     due("the greatest is lessened less", x.markOf(0, 0, 0), 9);
     due("no fourth", x.hand(0, 0), -3);
     due("three", x.markOf(0, 0, 4), 3);
+    CourseHouse y = with(1, 2);
+    y.hand(0, 0);
+    due("mark 0", y.mark(0, 0, 0), 1);
+    due("0 is a mark", y.mark(0, 0, 5), -3);
+    due("and so a second try", y.hand(0, 0), 1);
     due("hand-ins", x.count(5), 3);
     due("marks", x.count(6), 3);
   }
@@ -235,8 +248,12 @@ public final class HandingTest {
     due("the first", t.markOf(0, 0, 0), 2);
     t.mark(0, 0, 4);
     due("the second now", t.appeal(0, 0, 10), 4);
+    t.hand(0, 0);
+    due("the third waits", t.appeal(0, 0, 10), 10);
+    t.mark(0, 0, 7);
+    due("the third now", t.appeal(0, 0, 1), 7);
     due("lessened", t.markOf(0, 0, 0), 9);
     t.excuse(0, 0, true);
-    due("excused", t.appeal(0, 0, 1), 10);
+    due("excused", t.appeal(0, 0, 2), 1);
   }
 }

@@ -99,6 +99,14 @@ public final class PeersTest {
     due("so it is marked", x.markOf(2, 0, 2), 1);
     x.excuse(2, 0, true);
     due("an excused one's", x.show(0, 2, 0, 1), 2);
+    CourseHouse y = with(2);
+    y.hand(0, 0);
+    y.hand(1, 0);
+    due("by pupil 0", y.show(0, 1, 0, 7), 1);
+    due("pupil 0's mark", y.markOf(1, 0, 0), 7);
+    due("pupil 0 once", y.show(0, 1, 0, 7), -3);
+    due("0 by pupil 1", y.show(1, 0, 0, 0), 1);
+    due("0 once", y.show(1, 0, 0, 3), -3);
   }
 
   private static void refusedShow() {

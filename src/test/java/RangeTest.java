@@ -92,6 +92,9 @@ public final class RangeTest {
     // The - stands in another rule, and so all rules are tried out.
     isRange(x, "a = wa * wb * wc; b = 1 - 1;", 0, 1, 240, 1, 3);
     isNone(x, "a = wa + wb + wc + wd; b = 1 - 1;", 4);
+    Checks.rules(x, "a = wa - 4; b = a * a; c = b + 1;");
+    due("by the first rule: least", x.range(0, 2, 0), 1);
+    due("by the first rule: greatest", x.range(0, 2, 2), 37);
     x.excuse(0, 0, true);
     isRange(x, "a = wa - wb - wc - wd;", -13, 1, 0, 1, 3);
     isRange(x, "a = b - c; b = wb; c = max(wc, wd);", -4, 1, 6, 1, 3);

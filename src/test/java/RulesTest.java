@@ -165,6 +165,13 @@ public final class RulesTest {
     due("not the other way", x.hangs(0, 3), 0);
     x.need(1, -1, 0);
     due("none needed again", x.hangs(0, 2), 0);
+    x.need(2, -1, 0);
+    x.need(3, -1, 0);
+    due("read", Checks.rules(x, "a = wa; b = wd; c = b;"), 3);
+    x.need(3, 0, 0);
+    due("by a need of the first rule", x.hangs(2, 0), 1);
+    x.need(3, -1, 0);
+    due("not any more", x.hangs(2, 0), 0);
   }
 
   private static void need() {

@@ -253,6 +253,10 @@ public final class TextTest {
     reads("a=" + Checks.times(8, "cap(") + "1" + Checks.times(8, ",1)") + ";", 1);
     reads("a=" + Checks.times(7, "(") + "pass((1),1)" + Checks.times(7, ")") + ";", -1014);
     reads("a=" + Checks.times(20, "((((((((1))))))))+") + "1;", 1);
+    reads("a=max(1,((((((((1)))))))));", -1015);
+    reads("a=max(1,(((((((1))))))));", 1);
+    reads("a=max(1,2,max(1,2,max(1,2,max(1,2,max(1,2,max(1,2,max(1,2,max(1,2))))))));", 1);
+    reads("a=max(1,2,max(1,2,max(1,2,max(1,2,max(1,2,max(1,2,max(1,2,max(1,(2)))))))));", -1064);
   }
 
   private static void names() {

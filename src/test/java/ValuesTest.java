@@ -231,6 +231,15 @@ public final class ValuesTest {
     }
     deep.append("l=wf;");
     is(deep.toString(), 0, 10, 1, 1);
+    CourseHouse shown = Checks.withPupils(1);
+    shown.work(3, 9, 0, 0);
+    Checks.rules(shown, "a = wa + 4;");
+    due("a shown work without marks is 0", shown.value(0, 0, 0), 4);
+    CourseHouse many = Checks.withPupils(1);
+    for (int i = 0; i < 12; i++) {
+      Checks.rules(many, "a=" + i + Checks.times(180, "+1") + ";");
+      due("long rules again and again", many.value(0, 0, 0), i + 180);
+    }
     CourseHouse x = Checks.withPupils(2);
     x.work(0, 9, 0, 0);
     Checks.rules(x, "a = wa;");
