@@ -812,6 +812,8 @@ public final class CourseHouse {
     private static final class Values {
         static final long OUT = 0L;
         static final long LOST = 1L << 32;
+        /** A product that went beyond the bounds, but is out if one of the parts behind is. */
+        static final long BEYOND = 2L << 32;
         static final long ZERO = 1L;
         static final long BOUND = 1000000000L;
         /** More steps than the greatest divisor of any two longs can take. */
@@ -875,6 +877,7 @@ public final class CourseHouse {
             return isNumber(x) ? -upper(x) << 32 | lower(x) : x;
         }
 
+        /** A product and one part more. */
         static long times(long x, long y) {
             if (x == LOST || y == LOST) {
                 return LOST;
@@ -882,11 +885,21 @@ public final class CourseHouse {
             if (x == OUT || y == OUT) {
                 return OUT;
             }
-            return of(upper(x) * upper(y), lower(x) * lower(y));
+            return x == BEYOND ? x : onTheWay(of(upper(x) * upper(y), lower(x) * lower(y)));
         }
 
+        /** A product by a number. */
         static long over(long x, int n) {
-            return isNumber(x) ? of(upper(x), lower(x) * n) : x;
+            return isNumber(x) ? onTheWay(of(upper(x), lower(x) * n)) : x;
+        }
+
+        private static long onTheWay(long x) {
+            return x == LOST ? BEYOND : x;
+        }
+
+        /** A product, when there are no more parts of it. */
+        static long ended(long x) {
+            return x == BEYOND ? LOST : x;
         }
 
         static long cap(long x, int n) {
@@ -922,8 +935,11 @@ public final class CourseHouse {
         static final int DROP = 10;
         static final int CAP = 11;
         static final int PASS = 12;
+        static final int END_PRODUCT = 13;
 
         static final int FIRST_WORK = 23 * 27 + 1;
+        /** A word makes one step at most, and the end of a product one more. */
+        static final int MOST_STEPS = 2 * LONGEST_TEXT;
 
         int size;
         boolean minus;
@@ -937,10 +953,10 @@ public final class CourseHouse {
         final int[] below = new int[MOST_RULES];
         /** The rules' numbers, each behind those of the rules that it names. */
         final int[] order = new int[MOST_RULES];
-        final int[] ops = new int[LONGEST_TEXT];
-        final int[] args = new int[LONGEST_TEXT];
+        final int[] ops = new int[MOST_STEPS];
+        final int[] args = new int[MOST_STEPS];
         /** How many values each step takes. */
-        final int[] takes = new int[LONGEST_TEXT];
+        final int[] takes = new int[MOST_STEPS];
 
         void clear() {
             size = 0;
@@ -966,7 +982,7 @@ public final class CourseHouse {
         /** Adds a step to the rule that was begun last. */
         void add(int op, int arg, int many) {
             int last = size - 1;
-            if (steps < 0 || steps >= LONGEST_TEXT || !isPlace(last)) {
+            if (steps < 0 || steps >= MOST_STEPS || !isPlace(last)) {
                 return;
             }
             ops[steps] = op;
@@ -1011,7 +1027,7 @@ public final class CourseHouse {
         int tie(int works) {
             for (int r = 0; r < size && r < MOST_RULES; r++) {
                 named[r] = 0;
-                for (int i = begins[r]; i >= 0 && i < ends[r] && i < LONGEST_TEXT; i++) {
+                for (int i = begins[r]; i >= 0 && i < ends[r] && i < MOST_STEPS; i++) {
                     if (ops[i] == NAMED) {
                         int place = placeOf(args[i], works);
                         if (place < 0) {
@@ -1245,6 +1261,9 @@ public final class CourseHouse {
 
         private void readProduct(int depth) {
             readPart(depth);
+            if (kind != '*' && kind != '/') {
+                return;
+            }
             for (int i = 0; i < LONGEST_TEXT && fault < 0 && (kind == '*' || kind == '/'); i++) {
                 boolean times = kind == '*';
                 take(kind);
@@ -1258,6 +1277,7 @@ public final class CourseHouse {
                     take(NUMBER);
                 }
             }
+            book.add(Book.END_PRODUCT, 0, 1);
         }
 
         private void readPart(int depth) {
@@ -1376,7 +1396,7 @@ public final class CourseHouse {
                 return Values.LOST;
             }
             int height = 0;
-            for (int i = book.begins[r]; i >= 0 && i < book.ends[r] && i < LONGEST_TEXT; i++) {
+            for (int i = book.begins[r]; i >= 0 && i < book.ends[r] && i < Book.MOST_STEPS; i++) {
                 int arg = book.args[i];
                 int base = height - book.takes[i];
                 if (base < 0 || base + 1 >= stack.length || height > stack.length) {
@@ -1401,6 +1421,9 @@ public final class CourseHouse {
                         break;
                     case Book.OVER:
                         x = Values.over(x, arg);
+                        break;
+                    case Book.END_PRODUCT:
+                        x = Values.ended(x);
                         break;
                     case Book.CAP:
                         x = Values.cap(x, arg);
@@ -1450,7 +1473,7 @@ public final class CourseHouse {
             for (int i = from; i >= 0 && i < to && i < stack.length; i++) {
                 sum = Values.plus(sum, stack[i]);
             }
-            return op == Book.MEAN ? Values.over(sum, many) : sum;
+            return op == Book.MEAN ? Values.ended(Values.over(sum, many)) : sum;
         }
 
         /** The greatest first. */

@@ -740,12 +740,12 @@ final class Model {
   }
 
   private static Value product(Node node, List<Value> parts) {
+    if (parts.contains(Value.OUT)) {
+      return Value.OUT;
+    }
     Value so = parts.get(0);
-    for (int i = 1; i < parts.size() && so != Value.LOST && so != Value.OUT; i++) {
+    for (int i = 1; i < parts.size() && so != Value.LOST; i++) {
       Value next = parts.get(i);
-      if (next == Value.OUT) {
-        return Value.OUT;
-      }
       so = so.times(node.signs.get(i).equals("/") ? Value.of(next.low, next.up) : next);
     }
     return so;

@@ -15,6 +15,7 @@ public final class ValuesTest {
     bounds();
     out();
     lost();
+    outOfProducts();
     names();
     CHECKS.end();
   }
@@ -197,8 +198,6 @@ public final class ValuesTest {
     isNone("wc - " + lost, LOST);
     isNone("wc * " + lost, LOST);
     isNone(lost + " * wc", LOST);
-    isNone("9999 * 9999 * 9999 * wc", LOST);
-    isNone("wc * 9999 * 9999 * 9999", OUT);
     isNone("0 * " + lost, LOST);
     isNone(lost + " / 9999", LOST);
     isNone("max(wa, " + lost + ")", LOST);
@@ -210,6 +209,45 @@ public final class ValuesTest {
     isNone("cap(" + lost + ", 1)", LOST);
     isNone("pass(" + lost + ", 1)", LOST);
     isNone(lost + " - " + lost, LOST);
+  }
+
+  /** A product is out wherever the part that is out stands, but if a part of it is lost. */
+  private static void outOfProducts() {
+    String beyond = "9999 * 9999 * 9999";
+    String lost = "(" + beyond + ")";
+    isNone(beyond + " * wc", OUT);
+    isNone("wc * " + beyond, OUT);
+    isNone("9999 * 9999 * wc * 9999", OUT);
+    isNone(beyond + " * wc * 2", OUT);
+    isNone(beyond + " * 2 * wc * wd", OUT);
+    isNone(beyond + " / 9999 * wc / 9999", OUT);
+    isNone("1 / 9999 / 9999 / 9999 * wc", OUT);
+    isNone(beyond + " * (wc + wd)", OUT);
+    isNone(beyond + " * cap(wc, 3)", OUT);
+    isNone("(" + beyond + " * wc)", OUT);
+    isNone("(" + beyond + " * wc) * " + beyond, OUT);
+    isNone("max(" + beyond + " * wc)", OUT);
+    isNone(beyond + " * wc * " + lost, LOST);
+    isNone(lost + " * wc * " + beyond, LOST);
+    isNone(beyond + " * (wc + " + lost + ")", LOST);
+    isNone(beyond + " * (2 * wc + 1)", LOST);
+    isNone(beyond + " * we", LOST);
+    isNone(beyond + " / 9999", LOST);
+    isNone("1 / 9999 / 9999 / 9999 * 9999", LOST);
+    isNone(beyond + " + wc", LOST);
+    isNone(beyond + " - wc * 2", LOST);
+    is(beyond + " * wc + 5", 5, 1);
+    is("5 - " + beyond + " * wc", 5, 1);
+    is("wa * wb - " + beyond + " / 3 * wc + wa / 2", 27, 2);
+    is("max(" + beyond + " * wc, 2)", 2, 1);
+    is("mean(" + beyond + " * wc, 2, 3)", 5, 2);
+    isNone("mean(" + beyond + ", wc, 2)", LOST);
+    is("a = " + beyond + " * b; b = wc;", 0, 0, 1, OUT);
+    is("a = b * wc; b = " + beyond + ";", 0, 0, 1, LOST);
+    is("a = b * 0; b = " + beyond + " * wc;", 0, 0, 1, OUT);
+    // As many products of two parts as a text can hold.
+    is("1*1" + Checks.times(148, "+1*1"), 149, 1);
+    is("1/1" + Checks.times(146, "+1/1") + "+1*7", 154, 1);
   }
 
   private static void names() {
