@@ -11,7 +11,6 @@ public final class CountTest {
     counts();
     minus();
     refusals();
-    everyRefusal();
     CHECKS.end();
   }
 
@@ -126,97 +125,5 @@ public final class CountTest {
     for (int kind = 1; kind <= 7; kind++) {
       due("refusals again -" + kind, x.count(10 + kind), want[kind]);
     }
-  }
-
-  /** A call that is refused: the refusal, and that nothing but its count changes. */
-  private static void isRefused(CourseHouse x, int why, String name, int... a) {
-    int[] want = counts(x);
-    want[10 - why]++;
-    int got = CallByName.answer(x, name, a);
-    due("refused " + name, got > 1000000000 ? 2000000000 - got : got, why);
-    int[] is = counts(x);
-    for (int what = 0; what < want.length; what++) {
-      due(name + " refused " + why + ": count(" + what + ")", is[what], want[what]);
-    }
-  }
-
-  private static int[] counts(CourseHouse x) {
-    int[] all = new int[19];
-    for (int what = 0; what < all.length; what++) {
-      all[what] = x.count(what);
-    }
-    return all;
-  }
-
-  /** Each refusal that the document tells, one by one. */
-  private static void everyRefusal() {
-    CourseHouse x = Checks.withPupils(6);
-    for (int i = 0; i < 10; i++) {
-      x.work(i % 4, 5, 0, 0);
-    }
-    Checks.rules(x, "a = wa - wb - wc - wd; b = 9999 * 9999 * 9999; c = 3;");
-    x.need(9, 2, 4);
-    x.hand(0, 0);
-    x.hand(1, 3);
-    x.hand(2, 3);
-    x.hand(3, 4);
-    x.mark(3, 4, 1);
-    x.hand(4, 1);
-    x.mark(4, 1, 1);
-    x.group(5, 4);
-    isRefused(x, -6, "pupil");
-    isRefused(x, -1, "group", 6, 0);
-    isRefused(x, -1, "work", 4, 1, 0, 0);
-    isRefused(x, -4, "work", 0, 0, 0, 0);
-    isRefused(x, -6, "work", 0, 1, 0, 0);
-    isRefused(x, -1, "leave", 6, 0, 0);
-    isRefused(x, -4, "leave", 0, 0, -1);
-    isRefused(x, -6, "leave", 0, 0, 1001);
-    isRefused(x, -1, "excuse", 0, 10, 1);
-    isRefused(x, -4, "tick", 0);
-    isRefused(x, -6, "tick", 100001);
-    isRefused(x, -4, "rules", -1, 0);
-    isRefused(x, -6, "rules", 1, 0);
-    isRefused(x, -1, "name", 3);
-    isRefused(x, -1, "hangs", 3, 0);
-    isRefused(x, -1, "need", 0, 3, 0);
-    isRefused(x, -4, "need", 0, 0, -1);
-    isRefused(x, -6, "need", 0, 0, 10000);
-    isRefused(x, -5, "need", 0, 0, 1);
-    isRefused(x, -1, "opens", 6, 0);
-    isRefused(x, -1, "hand", 6, 0);
-    isRefused(x, -3, "hand", 0, 9);
-    isRefused(x, -3, "hand", 5, 1);
-    isRefused(x, -3, "hand", 3, 4);
-    isRefused(x, -1, "mark", 0, 10, 0);
-    isRefused(x, -3, "mark", 5, 0, 1);
-    isRefused(x, -4, "mark", 0, 0, -1);
-    isRefused(x, -6, "mark", 0, 0, 6);
-    isRefused(x, -1, "peer", 0, 10, 0);
-    isRefused(x, -3, "peer", 0, 3, 0);
-    isRefused(x, -1, "show", 6, 1, 3, 0);
-    isRefused(x, -3, "show", 3, 1, 3, 0);
-    isRefused(x, -4, "show", 2, 1, 3, -1);
-    isRefused(x, -6, "show", 2, 1, 3, 6);
-    isRefused(x, -1, "appeal", 6, 4, 0);
-    isRefused(x, -3, "appeal", 0, 0, 0);
-    isRefused(x, -4, "appeal", 3, 4, -1);
-    isRefused(x, -6, "appeal", 3, 4, 6);
-    isRefused(x, -1, "markOf", 6, 0, 0);
-    isRefused(x, -2, "markOf", 0, 0, 5);
-    isRefused(x, -1, "value", 0, 3, 0);
-    isRefused(x, -2, "value", 0, 0, 3);
-    isRefused(x, -1, "range", 0, 3, 0);
-    isRefused(x, -2, "range", 0, 0, 5);
-    isRefused(x, -3, "range", 0, 0, 0);
-    isRefused(x, -3, "range", 0, 1, 3);
-    isRefused(x, -1, "least", 0, 0, 10, 0);
-    isRefused(x, -3, "least", 3, 0, 4, 0);
-    isRefused(x, -4, "least", 0, 0, 0, -1);
-    isRefused(x, -6, "least", 0, 0, 0, 10000);
-    for (int i = 0; i < 30; i++) {
-      x.text(0, 0, 0, 0, 0);
-    }
-    isRefused(x, -6, "text", 0, 0, 0, 0, 0);
   }
 }

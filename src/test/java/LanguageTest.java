@@ -8,7 +8,9 @@ import java.nio.file.Files;
 import java.nio.file.Path;
 import java.util.ArrayList;
 import java.util.List;
+import java.util.Map;
 import java.util.Set;
+import java.util.TreeMap;
 import java.util.TreeSet;
 import java.util.regex.Matcher;
 import java.util.regex.Pattern;
@@ -21,6 +23,9 @@ public final class LanguageTest {
       "rules(int,boolean)", "name(int)", "hangs(int,int)", "need(int,int,int)", "opens(int,int)", "hand(int,int)",
       "mark(int,int,int)", "peer(int,int,int)", "show(int,int,int,int)", "appeal(int,int,int)",
       "markOf(int,int,int)", "value(int,int,int)", "range(int,int,int)", "least(int,int,int,int)", "count(int)");
+  private static final Map<String, String> OWNERS = Map.of("reader", "Reader", "reckoner", "Reckoner", "book", "Book",
+      "fresh", "Book", "in", "Book", "sheet", "Sheet", "other", "Sheet");
+  private static final int MOST_DEPTH = 8;
   private static final Checks CHECKS = new Checks();
 
   public static void main(String[] args) throws IOException {
@@ -29,6 +34,7 @@ public final class LanguageTest {
     classesInside();
     words(withoutComments(source));
     methods(withoutComments(source));
+    depths(withoutComments(source));
     CHECKS.end();
   }
 
@@ -156,5 +162,72 @@ public final class LanguageTest {
         isTrue("only constructors make objects: " + lines[k].trim(), makes || !lines[k].matches(".*\\bnew\\b.*"));
       }
     }
+  }
+
+  /** How deep the calls go: each method of the file by class and name, with the methods that it calls. */
+  private static void depths(String code) {
+    Map<String, List<String>> calls = new TreeMap<>();
+    Map<String, String> bodies = bodies(code);
+    for (String method : bodies.keySet()) {
+      calls.put(method, called(method, bodies));
+    }
+    for (String method : calls.keySet()) {
+      int deep = depth(method, calls, new ArrayList<>());
+      isTrue(method + " goes " + deep + " deep", deep <= MOST_DEPTH);
+    }
+    isTrue("all methods of the face are found", calls.size() > FACE.size());
+  }
+
+  private static Map<String, String> bodies(String code) {
+    Pattern head = Pattern.compile("( {4}| {8})[A-Za-z][^=;]*?(\\w+)\\([^()]*\\) \\{");
+    Pattern inside = Pattern.compile(" {4}private static final class (\\w+) \\{");
+    Map<String, String> found = new TreeMap<>();
+    String owner = "CourseHouse";
+    String method = "";
+    for (String line : code.split("\n")) {
+      Matcher begins = inside.matcher(line);
+      Matcher called = head.matcher(line);
+      if (begins.matches()) {
+        owner = begins.group(1);
+      } else if (called.matches() && !line.trim().matches("(if|for|while|switch|else|do)\\b.*")) {
+        method = owner + "." + called.group(2);
+        found.put(method, "");
+      } else if (found.containsKey(method)) {
+        found.put(method, found.get(method) + line + "\n");
+      }
+    }
+    return found;
+  }
+
+  /** What the body of a method calls; what a name stands for is told by OWNERS. */
+  private static List<String> called(String method, Map<String, String> bodies) {
+    List<String> found = new ArrayList<>();
+    Matcher call = Pattern.compile("(?:(\\w+)\\.)?\\b([a-z]\\w*)\\(").matcher(bodies.get(method));
+    while (call.find()) {
+      String owner = call.group(1);
+      String own = method.substring(0, method.indexOf('.')) + "." + call.group(2);
+      if (owner == null) {
+        found.add(bodies.containsKey(own) ? own : "CourseHouse." + call.group(2));
+      } else if (!Set.of("Math", "Integer", "Arrays").contains(owner)) {
+        found.add(OWNERS.getOrDefault(owner, owner) + "." + call.group(2));
+      }
+    }
+    for (String one : found) {
+      isTrue(method + " calls " + one + ", which is in the file", bodies.containsKey(one));
+    }
+    return found;
+  }
+
+  /** The longest chain of calls from a method on; what calls itself again is recursion and counts once. */
+  private static int depth(String method, Map<String, List<String>> calls, List<String> open) {
+    int deepest = 0;
+    open.add(method);
+    for (String one : calls.get(method)) {
+      if (!open.contains(one)) {
+        deepest = Math.max(deepest, depth(one, calls, open));
+      }
+    }
+    open.remove(method);
+    return deepest + 1;
   }
 }

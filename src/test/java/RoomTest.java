@@ -1,16 +1,25 @@
 import java.lang.management.ManagementFactory;
+import java.lang.reflect.Array;
+import java.lang.reflect.Field;
+import java.lang.reflect.Modifier;
+import java.util.Collections;
+import java.util.IdentityHashMap;
 import java.util.Random;
+import java.util.Set;
 
 /** Room and time: no call makes an object, and the dearest ones end soon. */
 public final class RoomTest {
   private static final Checks CHECKS = new Checks();
   private static final int CALLS = 512;
+  private static final int MOST_OBJECTS = 600_000;
+  private static final int MOST_FIELDS = 7_300_000;
 
-  public static void main(String[] args) {
+  public static void main(String[] args) throws IllegalAccessException {
     for (int seed = 1; seed <= 5; seed++) {
       anyCalls(seed);
     }
     noObjects();
+    roomOfObjects();
     dearRange();
     CHECKS.end();
   }
@@ -58,6 +67,35 @@ public final class RoomTest {
     before = allocated();
     day(x, pieces);
     CHECKS.due("bytes made by calls", allocated() - before, idle);
+  }
+
+  /** What a new object takes; calls take nothing, so runs of new objects alone are the dearest. */
+  private static void roomOfObjects() throws IllegalAccessException {
+    Set<Object> found = Collections.newSetFromMap(new IdentityHashMap<>());
+    int fields = fieldsOf(new CourseHouse(), found);
+    CHECKS.isTrue("objects: " + found.size(), found.size() * CALLS <= MOST_OBJECTS);
+    System.out.println("a new object: " + found.size() + " objects, " + fields + " fields and elements");
+    CHECKS.isTrue("fields and elements: " + fields, fields * CALLS <= MOST_FIELDS);
+  }
+
+  /** The fields and elements of an object and of all that it leads to and is not found yet. */
+  private static int fieldsOf(Object one, Set<Object> found) throws IllegalAccessException {
+    if (one == null || !found.add(one)) {
+      return 0;
+    }
+    int many = one.getClass().isArray() ? Array.getLength(one) : 0;
+    if (one instanceof Object[]) {
+      for (Object element : (Object[]) one) {
+        many += fieldsOf(element, found);
+      }
+    }
+    for (Field field : one.getClass().getDeclaredFields()) {
+      if (!Modifier.isStatic(field.getModifiers())) {
+        field.setAccessible(true);
+        many += 1 + (field.getType().isPrimitive() ? 0 : fieldsOf(field.get(one), found));
+      }
+    }
+    return many;
   }
 
   /** The longest text there is, over the most marks. */
